@@ -481,6 +481,11 @@ public final class KeyWaves {
             return hasKey(key) ? cutCosts[key] : 0;
         }
 
+        /** The locks for which a key is barred, bit k for the lock k. */
+        int barsOf(int key) {
+            return hasKey(key) ? bars[key] : 0;
+        }
+
         int lockWith(int key) {
             return hasKey(key) ? lockOfKey[key] : NONE;
         }
@@ -498,7 +503,7 @@ public final class KeyWaves {
         }
 
         boolean hasBar(int key, int lock) {
-            return hasKey(key) && hasLock(lock) && (bars[key] & (1 << lock)) != 0;
+            return hasLock(lock) && (barsOf(key) & (1 << lock)) != 0;
         }
 
         boolean isFit(int key, int lock) {
@@ -694,7 +699,7 @@ public final class KeyWaves {
         int countBars() {
             int count = 0;
             for (int key = 0; key < keys; key++) {
-                count += Integer.bitCount(bars[key]);
+                count += Integer.bitCount(barsOf(key));
             }
             return count;
         }

@@ -33,6 +33,10 @@ final class AccountsTest {
         line(full, false, due.toString());
         line(full, true, due.toString());
         line(new KeyWaves(), true, "");
+        KeyWaves digits = new KeyWaves();
+        Runs.on(digits, "promise 30", "key(10, 0) = 0; key(9, 0) = 1; key(20, 0) = 2; lock(11) = 0");
+        line(digits, false, "0#10 1#9 2#20");
+        line(digits, true, "0#11");
     }
 
     private static void line(KeyWaves lodge, boolean isLocks, String due) {
@@ -68,9 +72,9 @@ final class AccountsTest {
         Runs.check("promise 35: the latest eight", """
             undo() = throws IllegalStateException; lock(0) = 0; lock(1) = 1; lock(2) = 2; lock(3) = 3; lock(4) = 4;
             lock(5) = 5; lock(6) = 6; account(10) = 7; lock(7) = 7; account(10) = 8; lock(8) = 8; account(10) = 8;
-            lock(9) = 9; account(10) = 8; undo() = 7; account(1) = 9; account(10) = 7; undo() = 6; undo() = 5;
-            undo() = 4; undo() = 3; lockOf(4, 0) = 4; account(1) = 5; undo() = 2; undo() = 1; undo() = 0;
-            account(1) = 2; lockOf(1, 0) = 1; lockOf(2, 0) = throws IndexOutOfBoundsException; undo() = throws
+            lock(9) = 9; account(10) = 8; undo() = 7; account(1) = 9; account(10) = 7; undo() = 6; account(1) = 8;
+            undo() = 5; account(1) = 7; undo() = 4; account(1) = 6; undo() = 3; lockOf(4, 0) = 4; account(1) = 5;
+            undo() = 2; account(1) = 4; undo() = 1; account(1) = 3; undo() = 0; account(1) = 2; lockOf(1, 0) = 1; lockOf(2, 0) = throws IndexOutOfBoundsException; undo() = throws
             IllegalStateException; account(1) = 2; lock(33) = 2; lockOf(2, 0) = 33; account(10) = 1; undo() = 0;
             account(1) = 2
             """);
@@ -115,6 +119,12 @@ final class AccountsTest {
         Runs.check("promise 36: an earlier snapshot is replaced, undo leaves it alone", """
             lock(1) = 0; save() = 0; lock(2) = 1; save() = 0; undo() = 1; undo() = 0; account(1) = 0; restore() = 0;
             account(1) = 2; lockOf(1, 0) = 2; undo() = throws IllegalStateException
+            """);
+        Runs.check("promise 36: each key and lock is saved", """
+            key(1, 2) = 0; lock(1) = 0; bar(0, 0, true) = 1; cut(0, 3) = 1; save() = 0; undo() = 3; undo() = 2;
+            undo() = 1; undo() = 0; lock(4) = 0; key(5, 1) = 0; put(0, 0) = 1; cut(0, 4) = 1; cut(0, 12) = 1;
+            restore() = 0; keyOf(0, 0) = 3; keyOf(0, 1) = 2; porterOf(2, 0) = 1; porterOf(1, 0) = 0; keyOf(0, 2) = -1;
+            keyOf(0, 5) = 1; lockOf(0, 0) = 1; lockOf(0, 1) = -1; lockOf(0, 3) = 0; isBarred(0, 0) = true
             """);
         Runs.check("promise 36: waves and counters are saved", """
             key(1, 0) = 0; lock(1) = 0; wave() = 1; save() = 1; take(0) = 0; wave() = 1; account(6) = 2;

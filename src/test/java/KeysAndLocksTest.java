@@ -238,6 +238,11 @@ final class KeysAndLocksTest {
             cheapest(0, -1) = throws NoSuchElementException; cheapest(1, 0) = throws IndexOutOfBoundsException;
             cheapest(1, -1) = throws IndexOutOfBoundsException; cheapest(-1, 99) = throws IndexOutOfBoundsException
             """);
+        Runs.check("promise 15: the first key, and the slack", """
+            key(1, 0) = 0; key(0, 0) = 1; key(63, 0) = 2; key(1, 0) = 3; lock(1) = 0; cheapest(0, 0) = 0;
+            cheapest(0, 1) = 2; cheapest(0, 2) = 3; cheapest(0, 3) = 1; slack(0) = 0; cheapest(0, 0) = 0;
+            cheapest(0, 1) = 3; cheapest(0, 2) = 1; cheapest(0, 3) = 2; slack(4) = 0; cheapest(0, 2) = 1
+            """);
         Runs.check("promise 15: no keys", """
             cheapest(0, 0) = throws IndexOutOfBoundsException; lock(0) = 0; cheapest(0, 0) = throws
             NoSuchElementException; key(63, 0) = 0; cheapest(0, 0) = 0; cheapest(0, 1) = throws NoSuchElementException

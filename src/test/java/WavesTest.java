@@ -79,7 +79,8 @@ final class WavesTest {
             """);
         Runs.check("promise 9: a key that has no way is given up, the next lock is tried", """
             key(3, 0) = 0; key(1, 0) = 1; key(6, 0) = 2; lock(1) = 0; lock(2) = 1; lock(4) = 2; put(1, 0) = 1;
-            put(2, 1) = 2; length() = 2; wave() = 1; keyOf(0, 2) = 1; keyOf(1, 2) = 0; keyOf(2, 2) = 2
+            put(2, 1) = 2; length() = 2; wave() = 1; keyOf(0, 2) = 1; keyOf(1, 2) = 0; keyOf(2, 2) = 2; key(1, 0) = 3; lock(1) = 3; bar(3, 3, true) = 1;
+            adds() = 1; length() = 2; wave() = 1; keyOf(1, 2) = 3; keyOf(3, 2) = 0
             """);
     }
 
@@ -164,6 +165,11 @@ final class WavesTest {
             adds() = 10; waves() = 1; most() = 10; mostAgain() = 10; cover(true) = 0; cover(false) = 1023; wave() = 10;
             lockOf(9, 1) = 9; lockOf(0, 1) = 0; account(7) = 10; isNeeded(4) = true; canBeOpen(9) = true;
             cover(false) = 1023; wave() = refused 10 10 0; openShare() = 1.0; meanFits() = 10.0
+            """);
+        Runs.check("promises 9 and 16 to 23: one key too many", calls + """
+            undo() = 7; most() = 9; mostAgain() = 9; waves() = 1; wave() = 9; keyOf(9, 2) = -1; keyOf(9, 3) = 0;
+            keyOf(0, 3) = 1; cover(true) = 511; cover(false) = 0; isNeeded(0) = false; isNeeded(9) = false;
+            wave() = refused 10 9 0
             """);
         Runs.check("promises 9 and 16: the longest way", longestChain() + """
             length() = 10; keyOf(9, 3) = 9; keyOf(0, 3) = 0; adds() = 1; wave() = 1; keyOf(9, 2) = 9; keyOf(0, 2) = 0;
