@@ -1,31 +1,42 @@
 import java.lang.reflect.InvocationTargetException;
 import java.lang.reflect.Method;
+import java.lang.reflect.Modifier;
+import java.util.ArrayList;
+import java.util.HashMap;
+import java.util.List;
+import java.util.Map;
 
 /**
  * Carries out runs of calls that are written as in the document: "key(1, 0) = 0; wave() = throws
- * UnsupportedOperationException". Two shorthands come on top: "= refused 3 7 0" stands for an
- * UnsupportedOperationException after which reason(0), reason(1) and reason(2) are 3, 7 and 0, and
- * "type("k1/0;w")" appends each of the characters.
+ * UnsupportedOperationException". Three shorthands come on top: "= refused 3 7 0" stands for an
+ * UnsupportedOperationException after which reason(0), reason(1) and reason(2) are 3, 7 and 0,
+ * "type("k1/0;w")" appends each of the characters, and "read() = 0#5" stands for the line as it is.
  */
 final class Runs {
+    private static final Map<String, Method> METHODS = new HashMap<>();
     private static int wrong = 0;
     private static int checked = 0;
 
     private Runs() {
     }
 
-    /** Carries out a run on a new object. */
+    /** Carries out a run on a new object; a call in it that is refused or throws must change nothing. */
     static void check(String name, String calls) {
-        on(new KeyWaves(), name, calls);
+        KeyWaves lodge = new KeyWaves();
+        List<String> before = new ArrayList<>();
+        for (String call : callsOf(calls)) {
+            carryOut(lodge, name, call);
+            if (dueOf(call).startsWith("refused ") || dueOf(call).startsWith("throws ")) {
+                Twins.compare(name, before, call);
+            }
+            before.add(call);
+        }
     }
 
     /** Carries out a run on an object. */
     static void on(KeyWaves lodge, String name, String calls) {
-        for (String call : splitOutsideQuotes(calls)) {
-            String one = call.strip();
-            if (!one.isEmpty()) {
-                carryOut(lodge, name, one);
-            }
+        for (String call : callsOf(calls)) {
+            carryOut(lodge, name, call);
         }
     }
 
@@ -43,36 +54,60 @@ final class Runs {
         System.exit(wrong == 0 && checked > 0 ? 0 : 1);
     }
 
-    private static java.util.List<String> splitOutsideQuotes(String calls) {
-        java.util.List<String> parts = new java.util.ArrayList<>();
+    /** The calls of a run; the blanks of a call are single ones. */
+    static List<String> callsOf(String calls) {
+        List<String> parts = new ArrayList<>();
         StringBuilder part = new StringBuilder();
         boolean isQuoted = false;
-        for (char sign : calls.toCharArray()) {
+        for (char sign : (calls + ";").toCharArray()) {
             if (sign == '"') {
                 isQuoted = !isQuoted;
             }
             if (sign == ';' && !isQuoted) {
-                parts.add(part.toString());
+                addCall(parts, part.toString().strip());
                 part.setLength(0);
             } else {
                 part.append(sign);
             }
         }
-        parts.add(part.toString());
         return parts;
     }
 
+    private static void addCall(List<String> parts, String call) {
+        if (!call.isEmpty()) {
+            parts.add(call.contains("\"") ? call : call.replaceAll("\\s+", " "));
+        }
+    }
+
+    /** The call without the answer that is due. */
+    static String askedOf(String call) {
+        int end = isTyped(call) ? -1 : call.lastIndexOf(" = ");
+        return end < 0 ? call : call.substring(0, end);
+    }
+
+    private static String dueOf(String call) {
+        int end = isTyped(call) ? -1 : call.lastIndexOf(" = ");
+        return end < 0 ? "" : call.substring(end + 3);
+    }
+
+    static boolean isTyped(String call) {
+        return call.startsWith("type(\"");
+    }
+
+    static String typedIn(String call) {
+        return call.substring(6, call.lastIndexOf('"'));
+    }
+
     private static void carryOut(KeyWaves lodge, String name, String call) {
-        if (call.startsWith("type(\"")) {
-            type(lodge, call.substring(6, call.lastIndexOf('"')));
+        if (isTyped(call)) {
+            type(lodge, typedIn(call));
             return;
         }
-        int end = call.replaceAll("\\s", " ").lastIndexOf(" = ");
-        if (end < 0) {
+        String asked = askedOf(call);
+        String due = dueOf(call);
+        if (due.isEmpty()) {
             throw new IllegalArgumentException(name + ": no answer is due in " + call);
         }
-        String due = call.substring(end + 3).strip().replaceAll("\\s+", " ");
-        String asked = call.substring(0, end).strip();
         String got = answer(lodge, asked);
         if (due.startsWith("refused ")) {
             same(name + ": " + asked, got, "throws UnsupportedOperationException");
@@ -90,18 +125,41 @@ final class Runs {
         }
     }
 
-    /** The answer to a call as a text: a number, true, false, or "throws" and the exception. */
-    static String answer(KeyWaves lodge, String call) {
-        String name = call.substring(0, call.indexOf('('));
-        String inside = call.substring(call.indexOf('(') + 1, call.lastIndexOf(')')).strip();
-        String[] texts = inside.isEmpty() ? new String[0] : inside.split(", *");
-        for (Method method : KeyWaves.class.getDeclaredMethods()) {
-            boolean isPublic = java.lang.reflect.Modifier.isPublic(method.getModifiers());
-            if (isPublic && method.getName().equals(name)) {
-                return answer(lodge, method, texts);
+    /** The line as it is, read until there is no further character. */
+    static String read(KeyWaves lodge) {
+        StringBuilder line = new StringBuilder();
+        while (line.length() < 100) {
+            try {
+                line.append(lodge.character(line.length()));
+            } catch (IndexOutOfBoundsException e) {
+                return line.toString();
             }
         }
-        throw new IllegalArgumentException("there is no method " + name);
+        return line.toString();
+    }
+
+    /** The answer to a call as a text: a number, true, false, or "throws" and the exception. */
+    static String answer(KeyWaves lodge, String call) {
+        if (call.equals("read()")) {
+            return read(lodge);
+        }
+        String name = call.substring(0, call.indexOf('('));
+        String inside = call.substring(call.indexOf('(') + 1, call.lastIndexOf(')')).strip();
+        return answer(lodge, methodOf(name), inside.isEmpty() ? new String[0] : inside.split(", *"));
+    }
+
+    private static Method methodOf(String name) {
+        if (METHODS.isEmpty()) {
+            for (Method method : KeyWaves.class.getDeclaredMethods()) {
+                if (Modifier.isPublic(method.getModifiers())) {
+                    METHODS.put(method.getName(), method);
+                }
+            }
+        }
+        if (!METHODS.containsKey(name)) {
+            throw new IllegalArgumentException("there is no method " + name);
+        }
+        return METHODS.get(name);
     }
 
     private static String answer(KeyWaves lodge, Method method, String[] texts) {
