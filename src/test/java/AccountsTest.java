@@ -43,7 +43,7 @@ final class AccountsTest {
         Runs.on(lodge, "promise 30", "line(" + isLocks + ") = " + due.length());
         StringBuilder got = new StringBuilder();
         for (int index = 0; index < due.length(); index++) {
-            got.append(lodge.character(index));
+            got.append(Runs.use(lodge).character(index));
         }
         Runs.same("promise 31", got.toString(), due);
         Runs.on(lodge, "promise 31", """
@@ -74,8 +74,8 @@ final class AccountsTest {
             lock(5) = 5; lock(6) = 6; account(10) = 7; lock(7) = 7; account(10) = 8; lock(8) = 8; account(10) = 8;
             lock(9) = 9; account(10) = 8; undo() = 7; account(1) = 9; account(10) = 7; undo() = 6; account(1) = 8;
             undo() = 5; account(1) = 7; undo() = 4; account(1) = 6; undo() = 3; lockOf(4, 0) = 4; account(1) = 5;
-            undo() = 2; account(1) = 4; undo() = 1; account(1) = 3; undo() = 0; account(1) = 2; lockOf(1, 0) = 1; lockOf(2, 0) = throws IndexOutOfBoundsException; undo() = throws
-            IllegalStateException; account(1) = 2; lock(33) = 2; lockOf(2, 0) = 33; account(10) = 1; undo() = 0;
+            undo() = 2; account(1) = 4; undo() = 1; account(1) = 3; undo() = 0; account(1) = 2; lockOf(1, 0) = 1;
+            lockOf(2, 0) = throws IndexOutOfBoundsException; undo() = throws IllegalStateException; account(1) = 2; lock(33) = 2; lockOf(2, 0) = 33; account(10) = 1; undo() = 0;
             account(1) = 2
             """);
         Runs.check("promise 35: what is refused cannot be undone", """

@@ -25,7 +25,7 @@ final class ExtremesTest {
         Runs.same("methods of the face", methods.size(), 36);
         for (int run = 0; run < 200; run++) {
             KeyWaves lodge = new KeyWaves();
-            for (int call = 0; call < 512; call++) {
+            for (int call = 0; call < Runs.MOST_CALLS; call++) {
                 callOne(lodge, methods.get(next(methods.size())));
             }
         }
@@ -46,7 +46,7 @@ final class ExtremesTest {
         boolean isDue = true;
         String name = method.getName() + Arrays.toString(values);
         try {
-            method.invoke(lodge, values);
+            method.invoke(Runs.use(lodge), values);
         } catch (InvocationTargetException e) {
             isDue = Arrays.asList(method.getExceptionTypes()).contains(e.getCause().getClass());
             name = name + " throws " + e.getCause();

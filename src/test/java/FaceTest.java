@@ -1,64 +1,39 @@
+import java.io.IOException;
 import java.lang.reflect.Constructor;
 import java.lang.reflect.Field;
-import java.lang.reflect.Member;
 import java.lang.reflect.Method;
 import java.lang.reflect.Modifier;
+import java.nio.file.Files;
+import java.nio.file.Path;
 import java.util.ArrayList;
 import java.util.Arrays;
 import java.util.Collections;
 import java.util.List;
+import java.util.Map;
 
-/** "The public face": the class has just the constructor and the methods that it names, and no other member. */
+/** "The public face", and LANGUAGE.md, rules 1 and 5: the class has the members that the document names, and no other. */
 final class FaceTest {
-    private static final String FACE = """
-        public int key(int wards, int porter) throws UnsupportedOperationException;
-        public int lock(int pins) throws UnsupportedOperationException;
-        public int cut(int key, int wards) throws UnsupportedOperationException;
-        public int bar(int key, int lock, boolean isBarred) throws UnsupportedOperationException;
-        public int slack(int wards) throws UnsupportedOperationException;
-        public int put(int key, int lock) throws UnsupportedOperationException;
-        public int take(int key) throws UnsupportedOperationException;
-        public int wave() throws UnsupportedOperationException;
-        public int keyOf(int key, int what) throws IndexOutOfBoundsException, IllegalArgumentException;
-        public int lockOf(int lock, int what) throws IndexOutOfBoundsException, IllegalArgumentException;
-        public boolean fits(int key, int lock) throws IndexOutOfBoundsException;
-        public boolean isBarred(int key, int lock) throws IndexOutOfBoundsException;
-        public int costFor(int key, int lock) throws IndexOutOfBoundsException;
-        public int cheapest(int lock, int place) throws IndexOutOfBoundsException, NoSuchElementException;
-        public int length() throws NoSuchElementException;
-        public int adds();
-        public int waves();
-        public int most();
-        public int mostAgain();
-        public int cover(boolean isLocks);
-        public boolean canBeOpen(int lock) throws IndexOutOfBoundsException;
-        public boolean isNeeded(int key) throws IndexOutOfBoundsException;
-        public int porterOf(int porter, int what) throws IllegalArgumentException;
-        public int ranked(int place) throws NoSuchElementException;
-        public int append(char character) throws IllegalStateException;
-        public int commands() throws IllegalArgumentException, UnsupportedOperationException;
-        public int faultPosition();
-        public int reason(int what) throws IllegalArgumentException, NoSuchElementException;
-        public int line(boolean isLocks);
-        public char character(int index) throws IndexOutOfBoundsException;
-        public double meanFits() throws ArithmeticException;
-        public float openShare() throws ArithmeticException;
-        public int account(int what) throws IllegalArgumentException;
-        public int undo() throws IllegalStateException;
-        public int save();
-        public int restore() throws IllegalStateException;
-        """;
+    private static final Path SOURCE = Path.of("src", "main", "java", "KeyWaves.java");
 
-    public static void main(String[] arguments) {
+    private static List<String> face;
+
+    public static void main(String[] arguments) throws IOException {
+        face = new Document().face();
         methods();
-        members();
+        argumentNames();
+        promises();
+        constructors();
+        theClass();
+        otherMembers();
         Runs.end("FaceTest");
     }
 
     private static void methods() {
         List<String> due = new ArrayList<>();
-        for (String line : FACE.split("\n")) {
-            due.add(line.replaceAll("(int|boolean|char) \\w+([,)])", "$1$2").replace(";", ""));
+        for (String line : face) {
+            if (!line.equals("public KeyWaves()")) {
+                due.add(line.replaceAll("(int|boolean|char) \\w+([,)])", "$1$2"));
+            }
         }
         List<String> got = new ArrayList<>();
         for (Method method : KeyWaves.class.getDeclaredMethods()) {
@@ -68,12 +43,8 @@ final class FaceTest {
         }
         Collections.sort(due);
         Collections.sort(got);
+        Runs.same("the public face: how many methods", got.size(), 36);
         Runs.same("the public face: its methods", String.join("\n", got), String.join("\n", due));
-        for (Method method : KeyWaves.class.getDeclaredMethods()) {
-            boolean isPrivate = Modifier.isPrivate(method.getModifiers());
-            Runs.same("a private method bears no name of a public one: " + method.getName(),
-                isPrivate && FACE.contains(" " + method.getName() + "("), false);
-        }
     }
 
     private static String written(Method method) {
@@ -92,27 +63,53 @@ final class FaceTest {
         return String.join(", ", names);
     }
 
-    private static void members() {
-        Class<?> face = KeyWaves.class;
-        Runs.same("the class", Modifier.toString(face.getModifiers()), "public final");
-        Runs.same("the class has no package", face.getPackageName(), "");
-        Runs.same("what the class extends", face.getSuperclass(), Object.class);
-        Runs.same("what the class implements", face.getInterfaces().length, 0);
-        Constructor<?>[] constructors = face.getDeclaredConstructors();
-        Runs.same("promise 1: its constructor", Arrays.toString(constructors), "[public KeyWaves()]");
-        for (Field field : face.getDeclaredFields()) {
-            Runs.same("no other member: " + field.getName(), isPrivate(field), true);
-            boolean isShared = Modifier.isStatic(field.getModifiers()) && !Modifier.isFinal(field.getModifiers());
-            Runs.same("no state that objects share: " + field.getName(), isShared, false);
-        }
-        for (Class<?> inside : face.getDeclaredClasses()) {
-            int modifiers = inside.getModifiers();
-            Runs.same("no other public member: " + inside.getSimpleName(),
-                Modifier.isPublic(modifiers) || Modifier.isProtected(modifiers), false);
+    private static void argumentNames() throws IOException {
+        List<String> source = Files.readAllLines(SOURCE);
+        for (String line : face) {
+            Runs.same("the public face, with the arguments' names: " + line, source.contains("    " + line + " {"), true);
         }
     }
 
-    private static boolean isPrivate(Member member) {
-        return Modifier.isPrivate(member.getModifiers());
+    private static void promises() {
+        Map<Integer, String> promised = new Document().promised();
+        Runs.same("how many promises", promised.size(), 37);
+        for (Map.Entry<Integer, String> promise : promised.entrySet()) {
+            Runs.same("promise " + promise.getKey() + ": " + promise.getValue(),
+                face.contains("public " + promise.getValue()), true);
+        }
+    }
+
+    private static void constructors() {
+        Constructor<?>[] constructors = KeyWaves.class.getDeclaredConstructors();
+        Runs.same("promise 1: the constructor", Arrays.toString(constructors), "[public KeyWaves()]");
+    }
+
+    private static void theClass() {
+        Class<?> tested = KeyWaves.class;
+        Runs.same("the public face: public final class", Modifier.toString(tested.getModifiers()), "public final");
+        Runs.same("the public face: it extends nothing", tested.getSuperclass(), Object.class);
+        Runs.same("the public face: it implements nothing", tested.getInterfaces().length, 0);
+        Runs.same("LANGUAGE.md: without a package line", tested.getPackageName(), "");
+    }
+
+    private static void otherMembers() {
+        for (Method method : KeyWaves.class.getDeclaredMethods()) {
+            boolean isPrivate = Modifier.isPrivate(method.getModifiers());
+            Runs.same("LANGUAGE.md, rule 1: a private method bears the name of a public one: " + method.getName(),
+                isPrivate && String.join(" ", face).contains(" " + method.getName() + "("), false);
+        }
+        for (Field field : KeyWaves.class.getDeclaredFields()) {
+            int modifiers = field.getModifiers();
+            Runs.same("LANGUAGE.md, rule 1: no other member: " + field.getName(), Modifier.isPrivate(modifiers), true);
+            Runs.same("LANGUAGE.md, rule 5: static fields are final: " + field.getName(),
+                Modifier.isStatic(modifiers) && !Modifier.isFinal(modifiers), false);
+        }
+        for (Class<?> inside : KeyWaves.class.getDeclaredClasses()) {
+            int modifiers = inside.getModifiers();
+            Runs.same("LANGUAGE.md, rule 1: classes inside are private or package-visible: " + inside.getSimpleName(),
+                Modifier.isPublic(modifiers) || Modifier.isProtected(modifiers), false);
+            Runs.same("LANGUAGE.md, rule 1: classes inside are static: " + inside.getSimpleName(),
+                Modifier.isStatic(modifiers), true);
+        }
     }
 }

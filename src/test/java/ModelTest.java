@@ -4,16 +4,23 @@ import java.util.List;
 import java.util.regex.Matcher;
 import java.util.regex.Pattern;
 
-/** Long runs of many calls, each answer of which is compared with that of the model. */
+/**
+ * Long runs of many changes, behind each of which all answers are compared with those of the model. An object is
+ * used for no more than 512 calls: when there is no room for a question any more, the changes come again on a new one.
+ */
 final class ModelTest {
     private static final int RUNS = 400;
     private static final int CHANGES = 60;
+    private static final int MOST_CALLS_OF_CHANGES = 350;
+    private static final int LONGEST_LINE = 69;
     private static final Pattern TEXT = Pattern.compile("C(;C)*".replace("C",
         "(k[0-9]{1,2}/[0-9]|l[0-9]{1,2}|c[0-9]/[0-9]{1,2}|[bup][0-9]{2}|[ts][0-9]|w)"));
 
-    private final KeyWaves lodge = new KeyWaves();
+    private final List<String> changes = new ArrayList<>();
     private final List<Model> earlier = new ArrayList<>();
     private final String name;
+    private KeyWaves lodge = new KeyWaves();
+    private int callsOfChanges = 0;
     private Model model = new Model();
     private Model snapshot = null;
     private int reason = 0;
@@ -30,7 +37,7 @@ final class ModelTest {
         for (int run = 0; run < RUNS; run++) {
             ModelTest test = new ModelTest(run);
             test.fill(run);
-            for (int change = 0; change < CHANGES; change++) {
+            for (int change = 0; change < CHANGES && test.callsOfChanges < MOST_CALLS_OF_CHANGES; change++) {
                 test.step();
                 test.compare(change % 10 == 9);
             }
@@ -39,6 +46,39 @@ final class ModelTest {
             new ModelTest(text).tryText();
         }
         Runs.end("ModelTest");
+    }
+
+    /** The object, for a call more, which changes nothing. */
+    private KeyWaves ask() {
+        makeRoom(1);
+        return Runs.use(lodge);
+    }
+
+    private String answer(String question) {
+        makeRoom(1);
+        return Runs.answer(lodge, question);
+    }
+
+    private void makeRoom(int calls) {
+        if (Runs.roomOf(lodge) < calls) {
+            lodge = new KeyWaves();
+            Runs.replay(lodge, changes);
+        }
+    }
+
+    /** Lets a change come, or what would be one. */
+    private String change(String call) {
+        makeRoom(1);
+        changes.add(call);
+        callsOfChanges++;
+        return Runs.answer(lodge, call);
+    }
+
+    private void type(String text) {
+        makeRoom(text.length());
+        changes.add("type(\"" + text + "\")");
+        callsOfChanges += text.length();
+        Runs.type(lodge, text);
     }
 
     private int next(int bound) {
@@ -73,7 +113,7 @@ final class ModelTest {
             undo();
         } else if (kind == 1) {
             snapshot = model.copy();
-            Runs.same(name + ": save", lodge.save(), model.open());
+            Runs.same(name + ": save", change("save()"), String.valueOf(model.open()));
         } else if (kind == 2 && next(3) == 0) {
             restore();
         } else if (kind < 6) {
@@ -103,13 +143,8 @@ final class ModelTest {
         Model before = model.copy();
         Integer due = model.change(letter, first, second);
         String call = name + ": " + letter + " " + first + " " + second;
-        Integer got = null;
-        try {
-            got = call(letter, first, second);
-        } catch (UnsupportedOperationException e) {
-            // It is compared below.
-        }
-        Runs.same(call, String.valueOf(got), String.valueOf(due));
+        Runs.same(call, change(written(letter, first, second)),
+            due == null ? "throws UnsupportedOperationException" : String.valueOf(due));
         if (due == null) {
             keepReason(0);
         } else {
@@ -123,26 +158,25 @@ final class ModelTest {
         index = newIndex;
     }
 
-    private int call(char letter, int first, int second) {
+    private static String written(char letter, int first, int second) {
         switch (letter) {
             case 'k':
-                return lodge.key(first, second);
+                return "key(" + first + ", " + second + ")";
             case 'l':
-                return lodge.lock(first);
+                return "lock(" + first + ")";
             case 'c':
-                return lodge.cut(first, second);
+                return "cut(" + first + ", " + second + ")";
             case 'b':
-                return lodge.bar(first, second, true);
             case 'u':
-                return lodge.bar(first, second, false);
+                return "bar(" + first + ", " + second + ", " + (letter == 'b') + ")";
             case 's':
-                return lodge.slack(first);
+                return "slack(" + first + ")";
             case 'p':
-                return lodge.put(first, second);
+                return "put(" + first + ", " + second + ")";
             case 't':
-                return lodge.take(first);
+                return "take(" + first + ")";
             default:
-                return lodge.wave();
+                return "wave()";
         }
     }
 
@@ -177,16 +211,11 @@ final class ModelTest {
                 keepReason(i);
             }
         }
-        Runs.type(lodge, text.toString());
-        Runs.same(name + ": length of " + text, lodge.account(11), text.length());
-        String got;
-        try {
-            got = String.valueOf(lodge.commands());
-        } catch (UnsupportedOperationException e) {
-            got = "refused";
-        }
-        Runs.same(name + ": " + text, got, isRefused ? "refused" : String.valueOf(count));
-        Runs.same(name + ": fault of " + text, lodge.faultPosition(), -1);
+        type(text.toString());
+        Runs.same(name + ": length of " + text, ask().account(11), text.length());
+        Runs.same(name + ": " + text, change("commands()"),
+            isRefused ? "throws UnsupportedOperationException" : String.valueOf(count));
+        Runs.same(name + ": fault of " + text, ask().faultPosition(), -1);
         if (isRefused) {
             model = before;
         } else {
@@ -196,7 +225,7 @@ final class ModelTest {
 
     private void undo() {
         int size = earlier.size();
-        Runs.same(name + ": undo", Runs.answer(lodge, "undo()"), size == 0 ? "throws IllegalStateException" : "" + (size - 1));
+        Runs.same(name + ": undo", change("undo()"), size == 0 ? "throws IllegalStateException" : "" + (size - 1));
         if (size > 0) {
             model = earlier.remove(size - 1);
         }
@@ -204,7 +233,7 @@ final class ModelTest {
 
     private void restore() {
         String due = snapshot == null ? "throws IllegalStateException" : "" + snapshot.open();
-        Runs.same(name + ": restore", Runs.answer(lodge, "restore()"), due);
+        Runs.same(name + ": restore", change("restore()"), due);
         if (snapshot != null) {
             model = snapshot.copy();
             earlier.clear();
@@ -226,9 +255,9 @@ final class ModelTest {
 
     private void compareReason() {
         String due = reason == 0 ? "throws NoSuchElementException" : reason + " " + detail + " " + index;
-        String got = Runs.answer(lodge, "reason(0)");
+        String got = answer("reason(0)");
         if (reason != 0) {
-            got = got + " " + lodge.reason(1) + " " + lodge.reason(2);
+            got = got + " " + ask().reason(1) + " " + ask().reason(2);
         }
         Runs.same(name + ": reason", got, due);
     }
@@ -243,13 +272,13 @@ final class ModelTest {
         int[] due = {model.wards.size(), model.pins.size(), model.open(), pairs, model.barred(), model.slack,
             model.waves, model.ways, model.fallen, costs, earlier.size(), 0};
         for (int what = 0; what < due.length; what++) {
-            Runs.same(name + ": account " + what, lodge.account(what), due[what]);
+            Runs.same(name + ": account " + what, ask().account(what), due[what]);
         }
         int keys = model.wards.size();
         int locks = model.pins.size();
-        Runs.same(name + ": meanFits", Runs.answer(lodge, "meanFits()"),
+        Runs.same(name + ": meanFits", answer("meanFits()"),
             keys == 0 ? "throws ArithmeticException" : String.valueOf((double) pairs / keys));
-        Runs.same(name + ": openShare", Runs.answer(lodge, "openShare()"),
+        Runs.same(name + ": openShare", answer("openShare()"),
             locks == 0 ? "throws ArithmeticException" : String.valueOf((float) model.open() / locks));
     }
 
@@ -269,8 +298,11 @@ final class ModelTest {
             int[] due = {model.wards.get(key), porter, model.lockWith(key), levels[key], fitCount(key),
                 model.cutCosts.get(key)};
             for (int what = 0; what < due.length; what++) {
-                Runs.same(name + ": keyOf " + key + " " + what, lodge.keyOf(key, what), due[what]);
+                Runs.same(name + ": keyOf " + key + " " + what, ask().keyOf(key, what), due[what]);
             }
+            int lock = model.lockWith(key);
+            Runs.same(name + ": the key " + key + " is in a lock and does not fit it",
+                lock >= 0 && !ask().fits(key, lock), false);
             porters[porter][0]++;
             porters[porter][1] += model.lockWith(key) >= 0 ? 1 : 0;
             porters[porter][2] += model.cutCosts.get(key);
@@ -282,32 +314,32 @@ final class ModelTest {
             }
             int[] due = {model.pins.get(lock), model.holders.get(lock), fitting, model.putCounts.get(lock)};
             for (int what = 0; what < due.length; what++) {
-                Runs.same(name + ": lockOf " + lock + " " + what, lodge.lockOf(lock, what), due[what]);
+                Runs.same(name + ": lockOf " + lock + " " + what, ask().lockOf(lock, what), due[what]);
             }
         }
         for (int porter = 0; porter < 4; porter++) {
             for (int what = 0; what < 3; what++) {
-                Runs.same(name + ": porterOf " + porter, lodge.porterOf(porter, what), porters[porter][what]);
+                Runs.same(name + ": porterOf " + porter, ask().porterOf(porter, what), porters[porter][what]);
             }
         }
     }
 
     private void compareWays() {
         int last = model.lastLevel();
-        Runs.same(name + ": length", Runs.answer(lodge, "length()"),
+        Runs.same(name + ": length", answer("length()"),
             last < 0 ? "throws NoSuchElementException" : String.valueOf(last + 1));
         Integer adds = model.copy().wave();
-        Runs.same(name + ": adds", lodge.adds(), adds == null ? 0 : adds);
-        Runs.same(name + ": waves", lodge.waves(), model.afterAllWaves().waves - model.waves);
+        Runs.same(name + ": adds", ask().adds(), adds == null ? 0 : adds);
+        Runs.same(name + ": waves", ask().waves(), model.afterAllWaves().waves - model.waves);
     }
 
     private void comparePairs() {
         for (int key = 0; key < model.wards.size(); key++) {
             for (int lock = 0; lock < model.pins.size(); lock++) {
                 String pair = name + ": pair " + key + " " + lock;
-                Runs.same(pair, lodge.fits(key, lock), model.fits(key, lock));
-                Runs.same(pair, lodge.isBarred(key, lock), model.bars[key][lock]);
-                Runs.same(pair, lodge.costFor(key, lock), model.costFor(key, lock));
+                Runs.same(pair, ask().fits(key, lock), model.fits(key, lock));
+                Runs.same(pair, ask().isBarred(key, lock), model.bars[key][lock]);
+                Runs.same(pair, ask().costFor(key, lock), model.costFor(key, lock));
             }
         }
     }
@@ -316,13 +348,13 @@ final class ModelTest {
         int shortest = model.shortest();
         Runs.same(name + ": shortest", model.lastLevel(), shortest == 99 ? -1 : shortest - 1);
         int most = Model.largest(model.openSets(-1));
-        Runs.same(name + ": most", lodge.most(), most);
-        Runs.same(name + ": mostAgain", lodge.mostAgain(), most);
+        Runs.same(name + ": most", ask().most(), most);
+        Runs.same(name + ": mostAgain", ask().mostAgain(), most);
         for (int lock = 0; lock < model.pins.size(); lock++) {
-            Runs.same(name + ": canBeOpen " + lock, lodge.canBeOpen(lock), model.canBeOpen(lock));
+            Runs.same(name + ": canBeOpen " + lock, ask().canBeOpen(lock), model.canBeOpen(lock));
         }
         for (int key = 0; key < model.wards.size(); key++) {
-            Runs.same(name + ": isNeeded " + key, lodge.isNeeded(key), Model.largest(model.openSets(key)) < most);
+            Runs.same(name + ": isNeeded " + key, ask().isNeeded(key), Model.largest(model.openSets(key)) < most);
         }
         Model last = model.afterAllWaves();
         int[] beginnings = last.beginnings();
@@ -330,9 +362,23 @@ final class ModelTest {
         for (int holder : last.holders) {
             held |= holder >= 0 ? 1 << holder : 0;
         }
-        Runs.same(name + ": cover's locks", lodge.cover(true), beginnings[1]);
-        Runs.same(name + ": cover's keys", lodge.cover(false), held & ~beginnings[0]);
-        Runs.same(name + ": cover's size", Integer.bitCount(lodge.cover(true)) + Integer.bitCount(lodge.cover(false)), most);
+        Runs.same(name + ": cover's locks", ask().cover(true), beginnings[1]);
+        Runs.same(name + ": cover's keys", ask().cover(false), held & ~beginnings[0]);
+        Runs.same(name + ": cover's size", Integer.bitCount(ask().cover(true)) + Integer.bitCount(ask().cover(false)), most);
+        compareCovered();
+    }
+
+    /** "What it is": keys and locks that cover all pairs that fit. */
+    private void compareCovered() {
+        int locks = ask().cover(true);
+        int keys = ask().cover(false);
+        for (int key = 0; key < model.wards.size(); key++) {
+            for (int lock = 0; lock < model.pins.size(); lock++) {
+                boolean isCovered = (keys & 1 << key) != 0 || (locks & 1 << lock) != 0;
+                Runs.same(name + ": pair " + key + " " + lock + " fits and is covered by no key and no lock",
+                    ask().fits(key, lock) && !isCovered, false);
+            }
+        }
     }
 
     private void compareOrders() {
@@ -356,7 +402,7 @@ final class ModelTest {
     private void compareOrder(String call, List<Integer> due) {
         for (int place = -1; place <= due.size(); place++) {
             boolean isPlace = place >= 0 && place < due.size();
-            Runs.same(name + ": " + call + place, Runs.answer(lodge, call + place + ")"),
+            Runs.same(name + ": " + call + place, answer(call + place + ")"),
                 isPlace ? String.valueOf(due.get(place)) : "throws NoSuchElementException");
         }
     }
@@ -377,13 +423,14 @@ final class ModelTest {
     }
 
     private void compareLine(boolean isLocks, String due) {
-        int length = lodge.line(isLocks);
+        makeRoom(1 + LONGEST_LINE + 1);
+        int length = ask().line(isLocks);
         StringBuilder got = new StringBuilder();
         for (int i = 0; i < length; i++) {
-            got.append(lodge.character(i));
+            got.append(ask().character(i));
         }
         Runs.same(name + ": line", got.toString(), due);
-        Runs.same(name + ": behind the line", Runs.answer(lodge, "character(" + length + ")"),
+        Runs.same(name + ": behind the line", answer("character(" + length + ")"),
             "throws IndexOutOfBoundsException");
     }
 
@@ -396,10 +443,10 @@ final class ModelTest {
         for (int i = 0; i < count; i++) {
             text.append(parts[next(parts.length)]);
         }
-        Runs.type(lodge, text.toString());
-        String got = Runs.answer(lodge, "commands()");
+        type(text.toString());
+        String got = change("commands()");
         int due = faultOf(text.toString());
-        Runs.same("fault of " + text, lodge.faultPosition(), due);
+        Runs.same("fault of " + text, ask().faultPosition(), due);
         Runs.same("answer to " + text, got.equals("throws IllegalArgumentException"), due >= 0);
     }
 

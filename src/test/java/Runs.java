@@ -5,6 +5,7 @@ import java.util.ArrayList;
 import java.util.HashMap;
 import java.util.List;
 import java.util.Map;
+import java.util.WeakHashMap;
 
 /**
  * Carries out runs of calls that are written as in the document: "key(1, 0) = 0; wave() = throws
@@ -13,7 +14,11 @@ import java.util.Map;
  * "type("k1/0;w")" appends each of the characters, and "read() = 0#5" stands for the line as it is.
  */
 final class Runs {
+    /** "What it is": an object is used for at most 512 calls; a test that needs more asks for what is not promised. */
+    static final int MOST_CALLS = 512;
+
     private static final Map<String, Method> METHODS = new HashMap<>();
+    private static final Map<KeyWaves, int[]> CALLS = new WeakHashMap<>();
     private static int wrong = 0;
     private static int checked = 0;
 
@@ -90,12 +95,43 @@ final class Runs {
         return end < 0 ? "" : call.substring(end + 3);
     }
 
-    static boolean isTyped(String call) {
+    private static boolean isTyped(String call) {
         return call.startsWith("type(\"");
     }
 
-    static String typedIn(String call) {
+    private static String typedIn(String call) {
         return call.substring(6, call.lastIndexOf('"'));
+    }
+
+    /** Whether a call does nothing but fill the text buffer. */
+    static boolean isAppended(String call) {
+        return isTyped(call) || call.startsWith("append(");
+    }
+
+    /** The object, for one call more. */
+    static KeyWaves use(KeyWaves lodge) {
+        int[] count = CALLS.computeIfAbsent(lodge, unused -> new int[1]);
+        count[0]++;
+        if (count[0] > MOST_CALLS) {
+            throw new IllegalStateException("an object would be used for more than " + MOST_CALLS + " calls");
+        }
+        return lodge;
+    }
+
+    /** For how many calls an object can still be used. */
+    static int roomOf(KeyWaves lodge) {
+        return MOST_CALLS - CALLS.getOrDefault(lodge, new int[1])[0];
+    }
+
+    /** Carries out calls, whatever they answer. */
+    static void replay(KeyWaves lodge, List<String> calls) {
+        for (String call : calls) {
+            if (isTyped(call)) {
+                type(lodge, typedIn(call));
+            } else {
+                answer(lodge, askedOf(call));
+            }
+        }
     }
 
     private static void carryOut(KeyWaves lodge, String name, String call) {
@@ -121,7 +157,7 @@ final class Runs {
 
     static void type(KeyWaves lodge, String text) {
         for (char sign : text.toCharArray()) {
-            lodge.append(sign);
+            use(lodge).append(sign);
         }
     }
 
@@ -130,7 +166,7 @@ final class Runs {
         StringBuilder line = new StringBuilder();
         while (line.length() < 100) {
             try {
-                line.append(lodge.character(line.length()));
+                line.append(use(lodge).character(line.length()));
             } catch (IndexOutOfBoundsException e) {
                 return line.toString();
             }
@@ -169,7 +205,7 @@ final class Runs {
             arguments[i] = argument(types[i], texts[i]);
         }
         try {
-            return String.valueOf(method.invoke(lodge, arguments));
+            return String.valueOf(method.invoke(use(lodge), arguments));
         } catch (InvocationTargetException e) {
             return "throws " + e.getCause().getClass().getSimpleName();
         } catch (IllegalAccessException e) {

@@ -98,7 +98,7 @@ final class TermsOfKeysTest {
                     for (int wards = first; wards < first + 10 && wards < SETS; wards++) {
                         for (int pins = second; pins < second + 10 && pins < SETS; pins++) {
                             String name = "promise 12: " + wards + " fits " + pins + " with the slack " + slack;
-                            Runs.same(name, lodge.fits(wards - first, pins - second), isFit(wards, pins, slack));
+                            Runs.same(name, Runs.use(lodge).fits(wards - first, pins - second), isFit(wards, pins, slack));
                         }
                     }
                 }
@@ -110,14 +110,14 @@ final class TermsOfKeysTest {
         KeyWaves lodge = new KeyWaves();
         for (int i = 0; i < 10; i++) {
             if (first + i < SETS) {
-                lodge.key(first + i, 0);
+                Runs.use(lodge).key(first + i, 0);
             }
             if (second + i < SETS) {
-                lodge.lock(second + i);
+                Runs.use(lodge).lock(second + i);
             }
         }
         if (slack < 6) {
-            lodge.slack(slack);
+            Runs.use(lodge).slack(slack);
         }
         return lodge;
     }
@@ -283,7 +283,7 @@ final class TermsOfKeysTest {
                     for (int wards = first; wards < first + 10 && wards < SETS; wards++) {
                         for (int pins = second; pins < second + 10 && pins < SETS; pins++) {
                             String name = "promise 14: cut " + wards + " for " + pins + " with the slack " + slack;
-                            Runs.same(name, lodge.costFor(wards - first, pins - second), leastCost(wards, pins, slack));
+                            Runs.same(name, Runs.use(lodge).costFor(wards - first, pins - second), leastCost(wards, pins, slack));
                         }
                     }
                 }

@@ -64,10 +64,13 @@ final class TermsOfTextsTest {
             + "commands() = throws IllegalArgumentException; faultPosition() = 59; account(5) = 6; "
             + quoted("s0;s1;".repeat(9) + "s0;l12") + "append(59) = throws IllegalStateException; commands() = 20; "
             + "faultPosition() = -1; lockOf(0, 0) = 12; account(5) = 0; account(11) = 0; account(10) = 2");
-        Runs.check("promise 26: a full buffer that is emptied by a refused text", quoted(waves(59) + ";") + """
+        Runs.check("promises 26 and 27: a full buffer is empty behind a fault", quoted(waves(60)) + """
             append(0) = throws IllegalStateException; commands() = throws IllegalArgumentException; faultPosition() = 60;
-            """ + quoted(waves(59)) + """
-            commands() = refused 10 0 0; account(11) = 0; append('w') = 1; account(11) = 1
+            account(11) = 0; append('w') = 1; account(11) = 1
+            """);
+        Runs.check("promises 26 and 27: a full buffer is empty behind a refusal", quoted("s0;s1;".repeat(9) + "s0;l99") + """
+            append(0) = throws IllegalStateException; account(11) = 60; commands() = refused 1 0 19; account(11) = 0;
+            append('w') = 1; account(11) = 1; account(5) = 6
             """);
         Runs.check("promise 26: the buffer stays full after undo, restore, save and line", "lock(1) = 0; save() = 0; "
             + quoted("l1;".repeat(9) + "s0;s1;".repeat(5) + "s02") + """
@@ -161,9 +164,9 @@ final class TermsOfTextsTest {
         Runs.type(lodge, text);
         int due = faultOf(text);
         String answer = Runs.answer(lodge, "commands()");
-        Runs.same("promise 28: fault of " + text, lodge.faultPosition(), due);
+        Runs.same("promise 28: fault of " + text, Runs.use(lodge).faultPosition(), due);
         Runs.same("promise 27: " + text, answer.equals("throws IllegalArgumentException"), due >= 0);
-        Runs.same("promise 27: the buffer is empty after " + text, lodge.account(11), 0);
+        Runs.same("promise 27: the buffer is empty after " + text, Runs.use(lodge).account(11), 0);
         if (text.length() < LONGEST_TRIED && (due < 0 || due == text.length() || text.length() < 3)) {
             for (char sign : SIGNS.toCharArray()) {
                 shortTexts(text + sign);
@@ -247,17 +250,16 @@ final class TermsOfTextsTest {
             refused 3 2 2; put(5, 5) = refused 3 5 0; type("l1;l2;l3;t3"); commands() = refused 3 3 3; slack(6) =
             refused 5 0 0
             """);
-        String thirty = "w;".repeat(29);
-        Runs.check("Reasons: the index of the last of thirty commands", "key(0, 0) = 0; " + quoted("l0;" + "w;t0;".repeat(8)
-            + "w;p00") + "commands() = refused 8 0 18; account(1) = 0; " + quoted(thirty + "w") + "account(11) = 59; "
-            + "commands() = refused 10 0 0; " + quoted("l0;l0;" + "s0;s1;".repeat(9)) + "account(11) = 60; commands() = "
-            + "throws IllegalArgumentException; faultPosition() = 60; " + quoted("s0;s1;".repeat(9) + "l0;s7")
-            + "commands() = refused 1 0 19; account(5) = 6; account(1) = 0");
+        Runs.check("Reasons: the index of the first and of the last of many commands", "key(0, 0) = 0; "
+            + quoted("l0;" + "w;t0;".repeat(8) + "w;p00") + "commands() = refused 8 0 18; account(1) = 0; "
+            + quoted(waves(59)) + "account(11) = 59; commands() = refused 10 0 0; " + quoted("s0;s1;".repeat(9) + "l0;s7")
+            + "commands() = refused 1 0 19; account(5) = 6; account(1) = 0; " + quoted("l0;" + "w;t0;".repeat(11) + "t0")
+            + "commands() = refused 9 0 23; account(1) = 0; account(6) = 0");
         StringBuilder locks = new StringBuilder();
         for (int lock = 0; lock < 10; lock++) {
             locks.append("lock(").append(1 << lock % 6).append(") = ").append(lock).append("; ");
         }
-        Runs.check("Reasons, promise 27: ten waves, and the eleventh is refused", locks + """
+        Runs.check("Reasons, promise 27: six waves, and the seventh is refused", locks + """
             key(1, 0) = 0; type("w;t0;w;t0;w;t0;w;t0;w;t0;w;w"); commands() = refused 10 1 11; account(6) = 0;
             account(7) = 0; type("w;t0;w;t0;w;t0;w;t0;w;t0;w"); commands() = 11; account(6) = 6; account(7) = 6
             """);
@@ -268,14 +270,17 @@ final class TermsOfTextsTest {
             type("s0"); commands() = 1; type("s1;s2"); commands() = 2; type("s1;s2;s3"); commands() = 3; account(10) = 3;
             undo() = 2; account(5) = 2
             """);
-        for (int twos = 0; twos < 20; twos++) {
+        for (int count = 1; count <= 20; count++) {
             StringBuilder text = new StringBuilder();
-            for (int i = 0; i <= twos; i++) {
+            for (int i = 0; i < count; i++) {
                 text.append(i == 0 ? "" : ";").append("s").append(i % 6);
             }
-            Runs.check("promise 27: the number of commands, " + (twos + 1), quoted(text.toString()) + "commands() = "
-                + (twos + 1) + "; account(5) = " + twos % 6 + "; account(10) = 1; undo() = 0; account(5) = 6");
+            Runs.check("promise 27: the number of commands, " + count, quoted(text.toString()) + "commands() = " + count
+                + "; account(5) = " + (count - 1) % 6 + "; account(10) = 1; undo() = 0; account(5) = 6");
         }
+        Runs.check("promise 27: the number of commands, 24", "key(0, 0) = 0; lock(0) = 0; "
+            + quoted("w;t0;".repeat(11) + "w;t0") + "account(11) = 59; commands() = 24; account(6) = 12; account(7) = 12; "
+            + "lockOf(0, 3) = 12; account(2) = 0; account(10) = 3; undo() = 2; account(6) = 0; lockOf(0, 3) = 0");
     }
 
     private static void carriedOut() {

@@ -199,10 +199,26 @@ final class TermsOfWaysTest {
             keyOf(9, 2) = -1; lock(4) = 1; lock(4) = 2; put(9, 1) = 2; cut(0, 4) = 2; bar(0, 2, true) = 1; length() = 2;
             adds() = 1; wave() = 1; keyOf(0, 2) = 1; keyOf(9, 2) = 2
             """);
-        Runs.check("Waves: two keys that come to the same one, of which the second goes another way", """
+        Runs.check("Waves: the key that is in it then: the second key finds the first one there, and tries the next lock", """
             key(1, 0) = 0; key(3, 0) = 1; key(5, 0) = 2; key(10, 0) = 3; lock(1) = 0; lock(2) = 1; lock(4) = 2;
-            lock(8) = 3; put(2, 0) = 1; put(3, 1) = 2; length() = 2; adds() = 2; wave() = 2; keyOf(0, 2) = 0;
-            keyOf(1, 2) = 1; keyOf(2, 2) = 2; keyOf(3, 2) = 3; account(6) = 1; account(7) = 2
+            lock(8) = 3; put(2, 0) = 1; put(3, 1) = 2; keyOf(2, 3) = 1; keyOf(3, 3) = 1; length() = 2; adds() = 2;
+            wave() = 2; keyOf(0, 2) = 0; keyOf(1, 2) = 1; keyOf(2, 2) = 2; keyOf(3, 2) = 3; account(6) = 1; account(7) = 2
+            """);
+        Runs.check("Waves: the second key finds the first one there, and has no way in this wave", """
+            key(1, 0) = 0; key(1, 0) = 1; key(5, 0) = 2; lock(1) = 0; lock(4) = 1; lock(4) = 2; put(2, 0) = 1;
+            length() = 2; adds() = 1; wave() = 1; keyOf(0, 2) = 0; keyOf(1, 2) = -1; keyOf(2, 2) = 1;
+            length() = throws NoSuchElementException; wave() = refused 10 2 0
+            """);
+        Runs.check("Waves: the second key comes to a key from which the only end is taken, and goes on to the next lock", """
+            key(1, 0) = 0; key(6, 0) = 1; key(9, 0) = 2; key(10, 0) = 3; key(20, 0) = 4; lock(1) = 0; lock(2) = 1;
+            lock(4) = 2; lock(8) = 3; lock(16) = 4; put(2, 0) = 1; put(3, 1) = 2; put(4, 2) = 3; length() = 2;
+            adds() = 2; wave() = 2; keyOf(0, 2) = 0; keyOf(2, 2) = 3; keyOf(1, 2) = 2; keyOf(4, 2) = 4; keyOf(3, 2) = 1;
+            account(2) = 5; account(7) = 2
+            """);
+        Runs.check("Waves, promise 10: behind a wave the levels are those of the keys in their locks then", """
+            key(1, 0) = 0; key(3, 0) = 1; key(6, 0) = 2; key(1, 0) = 3; lock(1) = 0; lock(2) = 1; lock(4) = 2; put(1, 0) = 1;
+            put(2, 1) = 2; keyOf(0, 3) = 0; keyOf(1, 3) = 1; keyOf(2, 3) = 2; keyOf(3, 3) = 0; adds() = 1; wave() = 1;
+            keyOf(0, 3) = 1; keyOf(1, 3) = -1; keyOf(2, 3) = -1; keyOf(3, 3) = 0; keyOf(1, 2) = 1; keyOf(2, 2) = 2
             """);
     }
 
@@ -211,7 +227,7 @@ final class TermsOfWaysTest {
             key(1, 0) = 0; key(3, 0) = 1; lock(1) = 0; lock(2) = 1; adds() = 2; wave() = 2; keyOf(0, 2) = 0;
             keyOf(1, 2) = 1; lockOf(0, 3) = 1; lockOf(1, 3) = 1
             """);
-        Runs.check("Waves: levels are as they were at the beginning of the wave", """
+        Runs.check("Waves and Details: a key that is put into a lock in a wave has its level still, as at the beginning", """
             key(3, 0) = 0; key(1, 0) = 1; key(1, 0) = 2; lock(1) = 0; lock(2) = 1; length() = 1; adds() = 1; wave() = 1;
             keyOf(0, 2) = 0; keyOf(1, 2) = -1; keyOf(2, 2) = -1; keyOf(0, 3) = 1; length() = 2; adds() = 1; wave() = 1;
             keyOf(0, 2) = 1; keyOf(1, 2) = 0; keyOf(2, 2) = -1; keyOf(0, 3) = -1; keyOf(1, 3) = 1

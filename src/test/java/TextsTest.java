@@ -42,7 +42,7 @@ final class TextsTest {
             isBarred(1, 1) = true; undo() = 0; account(0) = 0; account(1) = 0; account(9) = 0; account(5) = 6;
             account(6) = 0; account(11) = 0
             """);
-        Runs.check("promise 27: thirty commands", """
+        Runs.check("promise 27: twenty commands are one change", """
             key(1, 0) = 0; type("s0;s1;s0;s1;s0;s1;s0;s1;s0;s1;s0;s1;s0;s1;s0;s1;s0;s1;s0;s5"); commands() = 20;
             account(5) = 5; account(10) = 2; undo() = 1; account(5) = 6
             """);

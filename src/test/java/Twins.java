@@ -7,7 +7,6 @@ import java.util.List;
  * for more than 512 calls.
  */
 final class Twins {
-    private static final int MOST_CALLS = 512;
     private static final int MOST_KEPT = 8;
 
     private final String name;
@@ -28,7 +27,7 @@ final class Twins {
         with.add(call);
         without = added.equals("commands") ? withoutLatestText(before) : before;
         KeyWaves lodge = new KeyWaves();
-        replay(lodge, before);
+        Runs.replay(lodge, before);
         keys = lodge.account(0);
         locks = lodge.account(1);
         kept = lodge.account(10);
@@ -57,27 +56,11 @@ final class Twins {
         for (int i = before.size() - 1, seen = 0; i >= 0; i--) {
             String call = before.get(i);
             seen += call.startsWith("commands(") ? 1 : 0;
-            boolean isLatestText = seen == 0 && (Runs.isTyped(call) || call.startsWith("append("));
-            if (!isLatestText) {
+            if (seen > 0 || !Runs.isAppended(call)) {
                 calls.add(0, call);
             }
         }
         return calls;
-    }
-
-    /** Carries out calls, whatever they answer, and tells how many they were. */
-    private static int replay(KeyWaves lodge, List<String> calls) {
-        int count = 0;
-        for (String call : calls) {
-            if (Runs.isTyped(call)) {
-                Runs.type(lodge, Runs.typedIn(call));
-                count += Runs.typedIn(call).length();
-            } else {
-                Runs.answer(lodge, Runs.askedOf(call));
-                count++;
-            }
-        }
-        return count;
     }
 
     private void ask(String what, List<String> questions) {
@@ -98,15 +81,10 @@ final class Twins {
 
     private static List<String> answers(List<String> behind, List<String> questions) {
         KeyWaves lodge = new KeyWaves();
-        int count = replay(lodge, behind);
+        Runs.replay(lodge, behind);
         List<String> answers = new ArrayList<>();
         for (String question : questions) {
-            String answer = Runs.answer(lodge, question);
-            answers.add(answer);
-            count += question.equals("read()") ? answer.length() + 1 : 1;
-        }
-        if (count > MOST_CALLS) {
-            throw new IllegalStateException("a twin would be used for " + count + " calls");
+            answers.add(Runs.answer(lodge, question));
         }
         return answers;
     }

@@ -73,13 +73,14 @@ final class WavesTest {
             length() = 1; adds() = 1; waves() = 2; wave() = 1; keyOf(1, 2) = 2; keyOf(0, 2) = -1; keyOf(2, 2) = 0;
             length() = 2; wave() = 1; keyOf(0, 2) = 0; keyOf(2, 2) = 1
             """);
-        Runs.check("promise 9: a lock with a key of no further level is passed by", """
+        Runs.check("promise 9: a lock with a key above the last level is passed by", """
             key(3, 0) = 0; key(1, 0) = 1; lock(1) = 0; lock(2) = 1; put(1, 0) = 1; wave() = 1; keyOf(0, 2) = 1;
             keyOf(1, 2) = 0; wave() = refused 10 2 0
             """);
         Runs.check("promise 9: a key that has no way is given up, the next lock is tried", """
             key(3, 0) = 0; key(1, 0) = 1; key(6, 0) = 2; lock(1) = 0; lock(2) = 1; lock(4) = 2; put(1, 0) = 1;
-            put(2, 1) = 2; length() = 2; wave() = 1; keyOf(0, 2) = 1; keyOf(1, 2) = 0; keyOf(2, 2) = 2; key(1, 0) = 3; lock(1) = 3; bar(3, 3, true) = 1;
+            put(2, 1) = 2; length() = 2; wave() = 1; keyOf(0, 2) = 1; keyOf(1, 2) = 0; keyOf(2, 2) = 2; key(1, 0) = 3;
+            lock(1) = 3; bar(3, 3, true) = 1;
             adds() = 1; length() = 2; wave() = 1; keyOf(1, 2) = 3; keyOf(3, 2) = 0
             """);
     }
@@ -110,10 +111,17 @@ final class WavesTest {
             mostAgain() = 3; put(0, 3) = 1; adds() = 2; most() = 3; slack(0) = 1; adds() = 1; most() = 1;
             mostAgain() = 1; waves() = 1
             """);
-        Runs.check("promises 17 to 20: three waves", """
+        Runs.check("promises 17 to 20: two waves", """
             key(3, 0) = 0; key(5, 0) = 1; key(1, 0) = 2; key(4, 0) = 3; lock(1) = 0; lock(4) = 1; lock(2) = 2;
             wave() = 2; keyOf(0, 2) = 0; keyOf(1, 2) = 1; length() = 2; waves() = 1; most() = 3; mostAgain() = 3;
             adds() = 1; undo() = 7; waves() = 2; adds() = 2
+            """);
+        Runs.check("promises 17 to 20: three waves, each with longer ways", """
+            key(3, 0) = 0; key(1, 0) = 1; key(12, 0) = 2; key(24, 0) = 3; key(4, 0) = 4; lock(1) = 0; lock(2) = 1;
+            lock(4) = 2; lock(8) = 3; lock(16) = 4; waves() = 3; adds() = 3; most() = 5; mostAgain() = 5; length() = 1;
+            wave() = 3; waves() = 2; adds() = 1; most() = 5; length() = 2; wave() = 1; waves() = 1; adds() = 1;
+            length() = 3; wave() = 1; waves() = 0; adds() = 0; most() = 5; mostAgain() = 5; account(6) = 3;
+            account(7) = 5; keyOf(0, 2) = 1; keyOf(1, 2) = 0; keyOf(2, 2) = 3; keyOf(3, 2) = 4; keyOf(4, 2) = 2
             """);
     }
 
