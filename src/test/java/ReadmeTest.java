@@ -9,7 +9,6 @@ import java.util.ArrayList;
 import java.util.List;
 import java.util.regex.Matcher;
 import java.util.regex.Pattern;
-import javax.tools.ToolProvider;
 
 /**
  * The calls that README.md shows, with the answers that it tells for them. The Java of the page is compiled as it
@@ -137,15 +136,16 @@ final class ReadmeTest {
     private static Class<?> run(Path directory, String name, String text) throws Exception {
         Path file = directory.resolve(name + ".java");
         Files.writeString(file, text);
-        int failed = ToolProvider.getSystemJavaCompiler().run(null, null, null, "-d", directory.toString(), "-cp",
-            System.getProperty("java.class.path"), file.toString());
+        int failed = new ProcessBuilder("javac", "-d", directory.toString(), "-cp",
+            System.getProperty("java.class.path"), file.toString()).inheritIO().start().waitFor();
         if (failed != 0) {
             throw new IllegalStateException("the Java of README.md does not compile: " + name);
         }
-        URLClassLoader loader = new URLClassLoader(new URL[] {directory.toUri().toURL()});
-        Class<?> made = Class.forName(name, true, loader);
-        made.getMethod("main", String[].class).invoke(null, (Object) new String[0]);
-        return made;
+        try (URLClassLoader loader = new URLClassLoader(new URL[] {directory.toUri().toURL()})) {
+            Class<?> made = Class.forName(name, true, loader);
+            made.getMethod("main", String[].class).invoke(null, (Object) new String[0]);
+            return made;
+        }
     }
 
     /** The table of the reasons has the words of the document. */

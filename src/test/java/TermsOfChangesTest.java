@@ -21,6 +21,7 @@ final class TermsOfChangesTest {
         eachUndone();
         refusedAreNotKept();
         whatStays();
+        whatChangesLeave();
         snapshots();
         noSnapshot();
         restoring();
@@ -143,10 +144,36 @@ final class TermsOfChangesTest {
             type("l7"); restore() = 0; account(11) = 2; faultPosition() = 3; reason(0) = 3; reason(1) = 4; reason(2) = 1;
             read() = 0#5; commands() = 1; lockOf(0, 0) = 7; restore() = 0; faultPosition() = -1; account(1) = 0
             """);
+        Runs.check("Changes, promise 36: the text buffer, the fault position, the reason and the line stay", """
+            type("l1;t4"); commands() = refused 3 4 1; type("l5;y"); commands() = throws IllegalArgumentException;
+            key(5, 0) = 0; line(false) = 3; type("l7"); save() = 0; account(11) = 2; faultPosition() = 3; reason(0) = 3;
+            reason(1) = 4; reason(2) = 1; read() = 0#5; account(10) = 1; commands() = 1; lockOf(0, 0) = 7
+            """);
         Runs.check("Changes, promise 36: they are not saved", """
             type("l7"); line(false) = 0; save() = 0; commands() = 1; key(5, 0) = 0; line(false) = 3; take(0) = refused 9 0 0;
             type("q"); commands() = throws IllegalArgumentException; restore() = 0; account(11) = 0; read() = 0#5;
             reason(0) = 9; faultPosition() = 0; commands() = throws IllegalArgumentException
+            """);
+    }
+
+    /** Behind each change: the buffer, the fault position, the reason and the line are told of the calls before it. */
+    private static void whatChangesLeave() {
+        String kept = """
+            account(11) = 2; faultPosition() = 3; reason(0) = 3; reason(1) = 4; reason(2) = 1; read() = 0#5;
+            """;
+        String[] changes = {"key(1, 1) = 1", "lock(2) = 1", "cut(0, 6) = 2", "bar(0, 0, true) = 1", "slack(3) = 0",
+            "put(0, 0) = 1", "wave() = 1", "put(0, 0) = 1; take(0) = 0", "undo() = 1", "save() = 0; restore() = 0",
+            "bar(0, 0, true) = 1; bar(0, 0, false) = 0"};
+        for (String change : changes) {
+            Runs.check("promises 2 to 9 and 35 to 37: what a change leaves", """
+                type("l1;t4"); commands() = refused 3 4 1; type("l5;y"); commands() = throws IllegalArgumentException;
+                key(5, 0) = 0; line(false) = 3; lock(4) = 0; type("l7");
+                """ + kept + change + "; " + kept + "commands() = 1; account(11) = 0");
+        }
+        Runs.check("promise 27: what commands leaves: the reason and the line", """
+            type("l1;t4"); commands() = refused 3 4 1; key(5, 0) = 0; line(false) = 3; type("l4;p00;w"); commands() =
+            refused 10 1 2; read() = 0#5; type("l4;w"); commands() = 2; reason(0) = 10; reason(1) = 1; reason(2) = 2;
+            read() = 0#5; faultPosition() = -1
             """);
     }
 

@@ -176,9 +176,11 @@ final class TermsOfWaysTest {
             keyOf(0, 2) = 1; keyOf(1, 2) = 0; keyOf(2, 2) = 2
             """);
         Runs.check("Waves: a key in a lock with a lower level is not come to", """
-            key(1, 0) = 0; key(3, 0) = 1; key(7, 0) = 2; lock(1) = 0; lock(2) = 1; lock(4) = 2; put(1, 0) = 1;
-            put(2, 1) = 2; keyOf(1, 3) = 1; keyOf(2, 3) = 2; length() = 3; wave() = 1; keyOf(0, 2) = 0; keyOf(1, 2) = 1;
-            keyOf(2, 2) = 2
+            key(3, 0) = 0; key(5, 0) = 1; key(22, 0) = 2; key(10, 0) = 3; key(40, 0) = 4; lock(1) = 0; lock(2) = 1;
+            lock(4) = 2; lock(8) = 3; lock(16) = 4; lock(32) = 5; put(1, 0) = 1; put(3, 1) = 2; put(2, 2) = 3;
+            put(4, 3) = 4; keyOf(0, 3) = 0; keyOf(1, 3) = 1; keyOf(2, 3) = 2; keyOf(3, 3) = 1; keyOf(4, 3) = 2;
+            length() = 3; adds() = 1; wave() = 1; keyOf(0, 2) = 0; keyOf(1, 2) = 2; keyOf(2, 2) = 4; keyOf(3, 2) = 1;
+            keyOf(4, 2) = 3; lockOf(5, 1) = -1; account(2) = 5
             """);
         Runs.check("Waves: from a key from which there is none, the next lock is tried", """
             key(3, 0) = 0; key(9, 0) = 1; key(6, 0) = 2; lock(1) = 0; lock(2) = 1; lock(4) = 2; put(1, 0) = 1;
@@ -262,10 +264,35 @@ final class TermsOfWaysTest {
             bar(0, 0, true) = 1; most() = 0; mostAgain() = 0; bar(0, 0, false) = 0; most() = 1; mostAgain() = 1;
             account(2) = 0
             """);
+        Runs.check("promise 20: a way over all ten keys, with the tenth one", lineOfTen() + """
+            mostAgain() = 10; most() = 10; isNeeded(0) = true; isNeeded(9) = true; adds() = 9; waves() = 2; wave() = 9;
+            keyOf(9, 2) = -1; keyOf(9, 3) = 0; keyOf(8, 3) = 9; length() = 10; mostAgain() = 10; wave() = 1;
+            keyOf(9, 2) = 0; keyOf(0, 2) = 1; keyOf(8, 2) = 9; mostAgain() = 10; bar(4, 5, true) = 82; most() = 9;
+            mostAgain() = 9; isNeeded(9) = false; isNeeded(5) = true
+            """);
         Runs.check("promise 20: from no key in any lock on, although the keys are in other locks", """
             key(3, 0) = 0; key(6, 0) = 1; key(1, 0) = 2; lock(1) = 0; lock(2) = 1; lock(4) = 2; put(0, 0) = 1;
             put(1, 1) = 2; most() = 3; mostAgain() = 3; keyOf(0, 2) = 0; keyOf(1, 2) = 1; lockOf(0, 3) = 1; account(2) = 2
             """);
+    }
+
+    /** The key k fits the locks k and k + 1 alone, but for the key 9, which fits the lock 0 alone; all else is barred. */
+    private static String lineOfTen() {
+        StringBuilder calls = new StringBuilder();
+        int bars = 0;
+        for (int number = 0; number < 10; number++) {
+            calls.append("key(1, 0) = " + number + "; lock(1) = " + number + "; ");
+        }
+        for (int pair = 0; pair < 100; pair++) {
+            int key = pair / 10;
+            int lock = pair % 10;
+            boolean isFit = key == 9 ? lock == 0 : lock == key || lock == key + 1;
+            if (!isFit) {
+                bars++;
+                calls.append("bar(" + key + ", " + lock + ", true) = " + bars + "; ");
+            }
+        }
+        return calls.toString();
     }
 
     private static void covers() {
@@ -273,6 +300,17 @@ final class TermsOfWaysTest {
             key(1, 0) = 0; key(1, 0) = 1; key(6, 0) = 2; lock(1) = 0; lock(2) = 1; lock(4) = 2; cover(true) = 1;
             cover(false) = 4; account(2) = 0; account(6) = 0; wave() = 2; cover(true) = 1; cover(false) = 4;
             take(2) = 1; cover(true) = 1; cover(false) = 4
+            """);
+        Runs.check("Covers, promise 21: as when no wave could add anything any more, which is behind two waves", """
+            key(3, 0) = 0; key(1, 0) = 1; lock(1) = 0; lock(2) = 1; waves() = 2; cover(true) = 0; cover(false) = 3;
+            wave() = 1; waves() = 1; cover(true) = 0; cover(false) = 3; wave() = 1; waves() = 0; cover(true) = 0;
+            cover(false) = 3; key(2, 0) = 2; waves() = 0; cover(true) = 3; cover(false) = 0
+            """);
+        Runs.check("Covers, promise 21: as when no wave could add anything any more, which is behind three waves", """
+            key(3, 0) = 0; key(1, 0) = 1; key(12, 0) = 2; key(24, 0) = 3; key(4, 0) = 4; lock(1) = 0; lock(2) = 1;
+            lock(4) = 2; lock(8) = 3; lock(16) = 4; waves() = 3; cover(true) = 0; cover(false) = 31; wave() = 3;
+            cover(true) = 0; cover(false) = 31; wave() = 1; cover(true) = 0; cover(false) = 31; wave() = 1;
+            cover(true) = 0; cover(false) = 31
             """);
         Runs.check("Covers, promise 21: all locks that can stand on the beginning of a way, also the ones further on", """
             key(1, 0) = 0; key(3, 0) = 1; key(6, 0) = 2; lock(1) = 0; lock(2) = 1; put(1, 0) = 1; put(2, 1) = 2;
