@@ -29,6 +29,7 @@ final class ReadmeTest {
         try {
             new ReadmeTest().calls(directory, blocks);
             program(directory, blocks);
+            texts(Files.readString(Path.of("README.md")));
             reasons(Files.readString(Path.of("README.md")));
         } finally {
             takeAway(directory);
@@ -146,6 +147,47 @@ final class ReadmeTest {
             made.getMethod("main", String[].class).invoke(null, (Object) new String[0]);
             return made;
         }
+    }
+
+    /** The table of the texts: each of them does what its call does, on another object. */
+    private static void texts(String page) {
+        KeyWaves typed = new KeyWaves();
+        KeyWaves called = new KeyWaves();
+        for (KeyWaves lodge : List.of(typed, called)) {
+            Runs.on(lodge, "README.md: before the texts", "key(2, 0) = 0; lock(1) = 0; lock(4) = 1");
+        }
+        Matcher row = Pattern.compile("\\| (`[a-z].*`) \\| (`[a-z].*`) \\|").matcher(page);
+        int rows = 0;
+        while (row.find()) {
+            List<String> texts = quoted(row.group(1));
+            List<String> calls = quoted(row.group(2));
+            for (int i = 0; i < texts.size(); i++) {
+                Runs.type(typed, texts.get(i));
+                Runs.same("README.md: " + texts.get(i), Runs.answer(typed, "commands()"), "1");
+                Runs.same("README.md: " + calls.get(i), Runs.answer(called, calls.get(i)).matches("[0-9]+"), true);
+                Runs.same("README.md: " + texts.get(i) + " and " + calls.get(i), told(typed), told(called));
+                rows++;
+            }
+        }
+        Runs.same("README.md: how many texts", rows, 9);
+    }
+
+    private static List<String> quoted(String cell) {
+        List<String> quoted = new ArrayList<>();
+        Matcher part = Pattern.compile("`([^`]*)`").matcher(cell);
+        while (part.find()) {
+            quoted.add(part.group(1));
+        }
+        return quoted;
+    }
+
+    private static String told(KeyWaves lodge) {
+        StringBuilder told = new StringBuilder();
+        for (String call : List.of("line(false)", "read()", "line(true)", "read()", "isBarred(0, 1)", "porterOf(3, 0)",
+            "account(4)", "account(5)", "account(6)", "account(7)", "account(8)", "account(9)", "account(10)")) {
+            told.append(call).append(" = ").append(Runs.answer(lodge, call)).append("; ");
+        }
+        return told.toString();
     }
 
     /** The table of the reasons has the words of the document. */
